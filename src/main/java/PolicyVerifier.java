@@ -135,7 +135,11 @@ public final class PolicyVerifier {
             if ((reached & set) != 0L) {
                 return taken;
             }
-            reached |= givenFor(outcomes, reached);
+            long further = reached | givenFor(outcomes, reached);
+            if (further == reached) {
+                return NONE;
+            }
+            reached = further;
         }
         return NONE;
     }
@@ -311,7 +315,7 @@ public final class PolicyVerifier {
     }
 
     private static boolean has(long set, int packet) {
-        return (set >>> packet & 1L) != 0L;
+        return ((set >>> packet) & 1L) != 0L;
     }
 
     private static int shiftOf(int field) {
@@ -323,7 +327,7 @@ public final class PolicyVerifier {
     }
 
     private static int valueOf(int packet, int field) {
-        return packet >> shiftOf(field) & VALUES - 1;
+        return (packet >> shiftOf(field)) & (VALUES - 1);
     }
 
     private static final class Policy {
@@ -368,7 +372,7 @@ public final class PolicyVerifier {
                     if (action < HALF) {
                         lowActions |= 1L << action;
                     } else {
-                        highActions |= 1L << action - HALF;
+                        highActions |= 1L << (action - HALF);
                     }
                 }
             }
@@ -415,7 +419,7 @@ public final class PolicyVerifier {
 
         /** Fields are fixed from 0 on, so a region is an unbroken row of packets from its first on. */
         private void addRegion(Responses responses, int first, int fixed) {
-            int packets = PACKETS >> 2 * fixed;
+            int packets = PACKETS >> (2 * fixed);
             if (fixed >= FIELDS || responses.areAlike(first, packets)) {
                 addRule(first, fixed, packets);
                 return;
