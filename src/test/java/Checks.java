@@ -47,12 +47,40 @@ final class Checks {
         }
     }
 
+    /** A test of its own for one sentence of the document, which is told if an answer breaks it. */
+    static void sentence(String words, Runnable test) {
+        int checkedBefore = checked;
+        int wrongBefore = wrong;
+        try {
+            test.run();
+        } catch (RuntimeException e) {
+            wrong++;
+            System.out.println("a call that should have answered threw " + e);
+        }
+        if (checked == checkedBefore) {
+            wrong++;
+            System.out.println("no answer was looked at");
+        }
+        if (wrong != wrongBefore) {
+            System.out.println("BROKEN: " + words);
+        }
+    }
+
     static String told(Call call) {
         try {
             return String.valueOf(call.answer());
         } catch (RuntimeException e) {
             return "throws." + e.getClass().getSimpleName();
         }
+    }
+
+    /** An object in which so many policies were made: the first is a SET, all others are PASS. */
+    static PolicyVerifier withPolicies(int policies) {
+        PolicyVerifier x = new PolicyVerifier();
+        for (int number = 0; number < policies; number++) {
+            x.policy(number == 0 ? SET : PASS, 1, 1, UNUSED);
+        }
+        return x;
     }
 
     static int packet(int field0, int field1, int field2) {
@@ -65,6 +93,14 @@ final class Checks {
             set |= 1L << packet;
         }
         return set;
+    }
+
+    static int drop(PolicyVerifier x) {
+        return x.policy(DROP, UNUSED, UNUSED, UNUSED);
+    }
+
+    static int pass(PolicyVerifier x) {
+        return x.policy(PASS, UNUSED, UNUSED, UNUSED);
     }
 
     static int test(PolicyVerifier x, int field, int value) {
@@ -91,9 +127,55 @@ final class Checks {
         return x.policy(NOT, a, UNUSED, UNUSED);
     }
 
+    static int choice(PolicyVerifier x, int a, int b, int c) {
+        return x.policy(CHOICE, a, b, c);
+    }
+
+    /** Packet 0 alone passes. */
+    static int firstPacket(PolicyVerifier x) {
+        return then(x, then(x, test(x, 0, 0), test(x, 1, 0)), test(x, 2, 0));
+    }
+
+    /** Packet 63 alone passes. */
+    static int lastPacket(PolicyVerifier x) {
+        return then(x, then(x, test(x, 0, 3), test(x, 1, 3)), test(x, 2, 3));
+    }
+
     /** If the packet has the value, the field gets the new one; other packets are dropped. */
     static int move(PolicyVerifier x, int field, int from, int to) {
         return then(x, test(x, field, from), change(x, field, to));
+    }
+
+    /** Goes from each packet to that of the next code, and from 63 to 0; makes 35 policies. */
+    static int ringOfPackets(PolicyVerifier x) {
+        int pass = pass(x);
+        int high = oneUp(x, 0);
+        int middle = then(x, oneUp(x, 1), choice(x, test(x, 1, 0), high, pass));
+        return then(x, oneUp(x, 2), choice(x, test(x, 2, 0), middle, pass));
+    }
+
+    /** Goes from each packet to that of the next code, and from 63 to none; makes 42 policies. */
+    static int rowOfPackets(PolicyVerifier x) {
+        return then(x, not(x, lastPacket(x)), ringOfPackets(x));
+    }
+
+    private static int oneUp(PolicyVerifier x, int field) {
+        int next = change(x, field, 0);
+        for (int value = 2; value >= 0; value--) {
+            next = choice(x, test(x, field, value), change(x, field, value + 1), next);
+        }
+        return next;
+    }
+
+    /** Gives each of the fields the same value. */
+    static int changeAll(PolicyVerifier x, int value) {
+        return then(x, change(x, 0, value), then(x, change(x, 1, value), change(x, 2, value)));
+    }
+
+    /** Gives the field every value. */
+    static int anyValue(PolicyVerifier x, int field) {
+        int low = union(x, change(x, field, 0), change(x, field, 1));
+        return union(x, low, union(x, change(x, field, 2), change(x, field, 3)));
     }
 
     static void end() {
