@@ -38,6 +38,10 @@ final class Checks {
         expect(name, "throws." + want.getSimpleName(), call);
     }
 
+    static void holds(String name, boolean truth) {
+        due(name, 1, () -> truth ? 1 : 0);
+    }
+
     static void expect(String name, String want, Call call) {
         String got = told(call);
         checked++;
@@ -146,7 +150,7 @@ final class Checks {
         return then(x, test(x, field, from), change(x, field, to));
     }
 
-    /** Goes from each packet to that of the next code, and from 63 to 0; makes 35 policies. */
+    /** Goes from each packet to that of the next code, and from 63 to 0; makes 37 policies. */
     static int ringOfPackets(PolicyVerifier x) {
         int pass = pass(x);
         int high = oneUp(x, 0);
@@ -154,7 +158,7 @@ final class Checks {
         return then(x, oneUp(x, 2), choice(x, test(x, 2, 0), middle, pass));
     }
 
-    /** Goes from each packet to that of the next code, and from 63 to none; makes 42 policies. */
+    /** Goes from each packet to that of the next code, and from 63 to none; makes 44 policies. */
     static int rowOfPackets(PolicyVerifier x) {
         return then(x, not(x, lastPacket(x)), ringOfPackets(x));
     }

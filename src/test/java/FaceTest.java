@@ -26,7 +26,7 @@ public final class FaceTest {
 
     public static void main(String[] args) {
         Class<?> face = PolicyVerifier.class;
-        holds("the class is public and final", Modifier.isPublic(face.getModifiers()) && Modifier.isFinal(face.getModifiers()));
+        Checks.holds("the class is public and final", Modifier.isPublic(face.getModifiers()) && Modifier.isFinal(face.getModifiers()));
         Set<String> names = publicMethods(face);
         constructors(face);
         fields(face);
@@ -34,10 +34,6 @@ public final class FaceTest {
             classInside(inside, names);
         }
         Checks.end();
-    }
-
-    private static void holds(String name, boolean truth) {
-        Checks.due(name, 1, () -> truth ? 1 : 0);
     }
 
     private static Set<String> publicMethods(Class<?> face) {
@@ -49,11 +45,11 @@ public final class FaceTest {
                 names.add(method.getName());
             }
         }
-        holds("the face is the document's: " + found, found.equals(new TreeSet<>(Arrays.asList(FACE))));
+        Checks.holds("the face is the document's: " + found, found.equals(new TreeSet<>(Arrays.asList(FACE))));
         for (Method method : face.getDeclaredMethods()) {
             boolean isFace = Modifier.isPublic(method.getModifiers());
             boolean isOwn = Modifier.isPrivate(method.getModifiers()) && !names.contains(method.getName());
-            holds("method " + method.getName(), isFace || isOwn);
+            Checks.holds("method " + method.getName(), isFace || isOwn);
         }
         return names;
     }
@@ -75,28 +71,28 @@ public final class FaceTest {
 
     private static void constructors(Class<?> face) {
         Constructor<?>[] all = face.getDeclaredConstructors();
-        holds("one public constructor without parameters",
+        Checks.holds("one public constructor without parameters",
                 all.length == 1 && Modifier.isPublic(all[0].getModifiers()) && all[0].getParameterCount() == 0);
     }
 
     private static void fields(Class<?> owner) {
         for (Field field : owner.getDeclaredFields()) {
             boolean isStatic = Modifier.isStatic(field.getModifiers());
-            holds("field " + field.getName() + " is private", Modifier.isPrivate(field.getModifiers()));
-            holds("field " + field.getName() + " is no static state", !isStatic || Modifier.isFinal(field.getModifiers()));
+            Checks.holds("field " + field.getName() + " is private", Modifier.isPrivate(field.getModifiers()));
+            Checks.holds("field " + field.getName() + " is no static state", !isStatic || Modifier.isFinal(field.getModifiers()));
         }
     }
 
     private static void classInside(Class<?> inside, Set<String> names) {
         int modifiers = inside.getModifiers();
         String name = inside.getSimpleName();
-        holds(name + " is static and not open", Modifier.isStatic(modifiers) && !Modifier.isPublic(modifiers) && !Modifier.isProtected(modifiers));
+        Checks.holds(name + " is static and not open", Modifier.isStatic(modifiers) && !Modifier.isPublic(modifiers) && !Modifier.isProtected(modifiers));
         for (Method method : inside.getDeclaredMethods()) {
-            holds(name + "." + method.getName(), !names.contains(method.getName()));
+            Checks.holds(name + "." + method.getName(), !names.contains(method.getName()));
         }
         for (Field field : inside.getDeclaredFields()) {
             boolean isStatic = Modifier.isStatic(field.getModifiers());
-            holds(name + "." + field.getName() + " is no static state", !isStatic || Modifier.isFinal(field.getModifiers()));
+            Checks.holds(name + "." + field.getName() + " is no static state", !isStatic || Modifier.isFinal(field.getModifiers()));
         }
     }
 }

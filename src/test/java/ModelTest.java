@@ -1,4 +1,5 @@
 import java.util.ArrayList;
+import java.util.Collections;
 import java.util.HashSet;
 import java.util.List;
 import java.util.NoSuchElementException;
@@ -13,34 +14,91 @@ import java.util.TreeSet;
  */
 public final class ModelTest {
     private static final int RUNS = 400;
+    private static final int WALKS = 100;
     private static final int CALLS = 512;
+    private static final int NO_WALK = -1;
 
     public static void main(String[] args) {
-        for (int seed = 0; seed < RUNS; seed++) {
-            oneRun(seed);
+        for (int seed = 0; seed < RUNS + WALKS; seed++) {
+            oneRun(seed, seed >= RUNS);
         }
         Checks.end();
     }
 
-    private static void oneRun(int seed) {
+    /** Policies made at random seldom lead far, so some runs begin with one that walks through all packets. */
+    private static void oneRun(int seed, boolean walks) {
         Random random = new Random(seed);
-        PolicyVerifier x = new PolicyVerifier();
-        Model model = new Model();
-        for (int call = 0; call < CALLS; call++) {
+        Both both = new Both(new PolicyVerifier(), new Model());
+        int walk = walks ? walkThroughAll(both, random) : NO_WALK;
+        for (int call = both.model().kinds.size(); call < CALLS; call++) {
             // Runs differ in how many of their calls make policies.
             int method = random.nextInt(4) < seed % 4 ? 0 : random.nextInt(13);
-            int[] n = {anyNumber(random, model), anyNumber(random, model), anyNumber(random, model), random.nextInt(11) - 1};
-            int packet = random.nextInt(66) - 1;
-            long set = anySet(random);
-            String name = "seed " + seed + ", call " + call + ": method " + method + " of "
-                    + n[0] + ", " + n[1] + ", " + n[2] + ", " + n[3] + ", packet " + packet + ", set " + set;
-            String want = Checks.told(() -> ofModel(model, method, n, packet, set));
-            Checks.expect(name, want, () -> ofClass(x, method, n, packet, set));
+            both.compare("seed " + seed + ", call " + call, anyCall(random, method, both.model(), walk));
         }
     }
 
-    private static int anyNumber(Random random, Model model) {
-        if (random.nextInt(3) == 0) {
+    private record Asked(int method, int kind, int a, int b, int c, int packet, int place, long set) {
+    }
+
+    private record Both(PolicyVerifier x, Model model) {
+        void compare(String name, Asked asked) {
+            String want = Checks.told(() -> ofModel(model, asked));
+            Checks.expect(name + ": " + asked, want, () -> ofClass(x, asked));
+        }
+
+        int make(int kind, int a, int b, int c) {
+            compare("walk", new Asked(0, kind, a, b, c, 0, 0, 0L));
+            return model.kinds.size() - 1;
+        }
+    }
+
+    /** Goes around through all packets, in an order of fields and of values that is the seed's own. */
+    private static int walkThroughAll(Both both, Random random) {
+        List<Integer> fields = shuffled(3, random);
+        int pass = both.make(Checks.PASS, 0, 0, 0);
+        int next = pass;
+        for (int field : fields) {
+            List<Integer> values = shuffled(4, random);
+            int carries = both.make(Checks.TEST, field, values.get(0), 0);
+            int carry = both.make(Checks.CHOICE, carries, next, pass);
+            next = both.make(Checks.THEN, nextValue(both, field, values), carry, 0);
+        }
+        return next;
+    }
+
+    private static int nextValue(Both both, int field, List<Integer> values) {
+        int next = both.make(Checks.SET, field, values.get(0), 0);
+        for (int place = 2; place >= 0; place--) {
+            int has = both.make(Checks.TEST, field, values.get(place), 0);
+            int change = both.make(Checks.SET, field, values.get(place + 1), 0);
+            next = both.make(Checks.CHOICE, has, change, next);
+        }
+        return next;
+    }
+
+    private static List<Integer> shuffled(int size, Random random) {
+        List<Integer> numbers = new ArrayList<>();
+        for (int number = 0; number < size; number++) {
+            numbers.add(number);
+        }
+        Collections.shuffle(numbers, random);
+        return numbers;
+    }
+
+    private static Asked anyCall(Random random, int method, Model model, int walk) {
+        int a = anyNumber(random, model, walk);
+        int b = anyNumber(random, model, walk);
+        int c = anyNumber(random, model, walk);
+        int place = random.nextInt(random.nextBoolean() ? 66 : 9) - 1;
+        return new Asked(method, random.nextInt(11) - 1, a, b, c, random.nextInt(66) - 1, place, anySet(random));
+    }
+
+    private static int anyNumber(Random random, Model model, int walk) {
+        int choice = random.nextInt(6);
+        if (choice == 0 && walk != NO_WALK) {
+            return walk;
+        }
+        if (choice < 2) {
             return random.nextInt(5) - 1;
         }
         return random.nextInt(model.kinds.size() + 1) - (random.nextInt(40) == 0 ? 1 : 0);
@@ -59,39 +117,39 @@ public final class ModelTest {
         }
     }
 
-    private static long ofClass(PolicyVerifier x, int method, int[] n, int packet, long set) {
-        switch (method) {
-            case 0: return x.policy(n[3], n[0], n[1], n[2]);
-            case 1: return x.outcome(n[0], packet);
-            case 2: return x.image(n[0], set);
-            case 3: return x.source(n[0], set);
-            case 4: return x.filter(n[0]);
-            case 5: return x.same(n[0], n[1]);
-            case 6: return x.covers(n[0], n[1]);
-            case 7: return x.differ(n[0], n[1]);
-            case 8: return x.rules(n[0]);
-            case 9: return x.rule(n[0], n[1], n[3]);
-            case 10: return x.match(n[0], packet);
-            case 11: return x.hops(n[0], packet, set);
-            default: return x.count(n[3]);
+    private static long ofClass(PolicyVerifier x, Asked n) {
+        switch (n.method()) {
+            case 0: return x.policy(n.kind(), n.a(), n.b(), n.c());
+            case 1: return x.outcome(n.a(), n.packet());
+            case 2: return x.image(n.a(), n.set());
+            case 3: return x.source(n.a(), n.set());
+            case 4: return x.filter(n.a());
+            case 5: return x.same(n.a(), n.b());
+            case 6: return x.covers(n.a(), n.b());
+            case 7: return x.differ(n.a(), n.b());
+            case 8: return x.rules(n.a());
+            case 9: return x.rule(n.a(), n.place(), n.kind());
+            case 10: return x.match(n.a(), n.packet());
+            case 11: return x.hops(n.a(), n.packet(), n.set());
+            default: return x.count(n.kind());
         }
     }
 
-    private static long ofModel(Model m, int method, int[] n, int packet, long set) {
-        switch (method) {
-            case 0: return m.make(n[3], n[0], n[1], n[2]);
-            case 1: return asLong(m.checked(n[0], packet).get(packet));
-            case 2: return asLong(Model.give(m.find(n[0]), asSet(set)));
-            case 3: return m.sources(n[0], asSet(set));
-            case 4: m.find(n[0]); return m.filters.get(n[0]) ? 1 : 0;
-            case 5: return m.find(n[0]).equals(m.find(n[1])) ? 1 : 0;
-            case 6: return m.containsAll(n[0], n[1]) ? 1 : 0;
-            case 7: return m.firstUnlike(n[0], n[1]);
-            case 8: return m.table(n[0]).size();
-            case 9: return m.partOfRule(n[0], n[1], n[3]);
-            case 10: return m.matching(n[0], packet);
-            case 11: return m.way(n[0], packet, asSet(set));
-            default: return m.number(n[3]);
+    private static long ofModel(Model m, Asked n) {
+        switch (n.method()) {
+            case 0: return m.make(n.kind(), n.a(), n.b(), n.c());
+            case 1: return asLong(m.checked(n.a(), n.packet()).get(n.packet()));
+            case 2: return asLong(Model.give(m.find(n.a()), asSet(n.set())));
+            case 3: return m.sources(n.a(), asSet(n.set()));
+            case 4: m.find(n.a()); return m.filters.get(n.a()) ? 1 : 0;
+            case 5: return m.find(n.a()).equals(m.find(n.b())) ? 1 : 0;
+            case 6: return m.containsAll(n.a(), n.b()) ? 1 : 0;
+            case 7: return m.firstUnlike(n.a(), n.b());
+            case 8: return m.table(n.a()).size();
+            case 9: return m.partOfRule(n.a(), n.place(), n.kind());
+            case 10: return m.matching(n.a(), n.packet());
+            case 11: return m.way(n.a(), n.packet(), asSet(n.set()));
+            default: return m.number(n.kind());
         }
     }
 
